@@ -567,7 +567,6 @@ public final class WharfQuery {
             for (int source = 0; source < MOST_SOURCES; source++) {
                 stepOf[source] = NO_STEP;
             }
-            thousandths = 0;
         }
 
         void place(int step, int source) {
@@ -576,7 +575,6 @@ public final class WharfQuery {
         }
 
         void becomePlain(int sourceCount) {
-            clear();
             for (int source = 0; source < sourceCount; source++) {
                 place(source, source);
                 ways[source] = NONE;
@@ -609,7 +607,6 @@ public final class WharfQuery {
 
         Plan choose(Report report) {
             draft.clear();
-            best.clear();
             best.thousandths = Long.MAX_VALUE;
             extend(this, report, 0, THOUSAND, 0);
             return best;

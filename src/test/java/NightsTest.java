@@ -9,6 +9,8 @@ final class NightsTest {
         goesHome();
         renewsAndForetellsAnew();
         reportsByPenalties();
+        manyPenalties();
+        marksItsOwnTablesAlone();
         noMinutesLeft();
         withoutSources();
         keptStays();
@@ -68,6 +70,10 @@ final class NightsTest {
         checkMark(4, 9, true);
         checkMark(4, 2, false);
         checkMark(4, 1, true);
+        checkMark(6, 3, false);
+        checkMark(7, 3, true);
+        checkMark(3, 6, false);
+        checkMark(3, 7, true);
         checkMark(5, 2, true);
         checkMark(4, 0, true);
         checkMark(0, 1, true);
@@ -169,6 +175,47 @@ final class NightsTest {
         Check.same("report 2 is done", x.keptIn(2), 0);
         Check.same("each is owed once for a night", x.night(0), 0);
         Check.same("owed behind two nights", x.owed(), 2);
+    }
+
+    /** Each report takes two minutes, and none are foretold. */
+    private static void manyPenalties() {
+        int[] penalties = {2, 9, 4, 9, 1, 9, 1000, 2};
+        int[] turns = {6, 1, 3, 5, 2, 0, 7, 4};
+        int owed = 0;
+        for (int done = 8; done >= 0; done--) {
+            WharfQuery x = new WharfQuery();
+            x.addTable(1);
+            x.insert(0, 0, 0, 0);
+            x.insert(0, 0, 0, 0);
+            for (int report = 0; report < 8; report++) {
+                x.addReport(penalties[report]);
+                x.addSource(report, 0);
+                x.setDue(report, true);
+            }
+            Check.same("done of eight", x.night(2 * done), done);
+            for (int turn = 0; turn < 8; turn++) {
+                Check.same("due of eight", x.isDue(turns[turn]), turn >= done);
+            }
+            owed += done == 8 ? 0 : penalties[turns[done]];
+            Check.same("owed of eight", x.owed(), owed);
+        }
+    }
+
+    private static void marksItsOwnTablesAlone() {
+        WharfQuery x = new WharfQuery();
+        for (int table = 0; table < 4; table++) {
+            x.addTable(1);
+            x.insert(table, 0, 0, 0);
+        }
+        x.addReport(1);
+        x.addSource(0, 2);
+        x.addSource(0, 3);
+        x.setDue(0, true);
+        Check.same("night that is too short", x.night(1), 0);
+        Check.same("mark of table 0", x.isMarked(0), false);
+        Check.same("mark of table 1", x.isMarked(1), false);
+        Check.same("mark of table 2", x.isMarked(2), true);
+        Check.same("mark of table 3", x.isMarked(3), true);
     }
 
     private static void noMinutesLeft() {

@@ -12,6 +12,8 @@ final class PlansTest {
         indexNeedsOneValue();
         lowerSourceGoesAhead();
         lessAndMoreNarrow();
+        lessAndMoreOfOneValue();
+        aThousandthIsAMinute();
         sameNarrows();
         joinNarrows();
         joinUsesIndexOfTheLaterStep();
@@ -19,6 +21,7 @@ final class PlansTest {
         firstConditionIsLookedFor();
         minutesAreOfTheRowsThatAreThere();
         oneTableAsManySources();
+        plainIsAskedFirst();
         largest();
         withoutSources();
         refuses();
@@ -166,6 +169,37 @@ final class PlansTest {
         checkNarrowed(WharfQuery.MORE, 18, 30);
         checkNarrowed(WharfQuery.MORE, 19, 10);
         checkNarrowed(WharfQuery.MORE, 999, 10);
+    }
+
+    /** Twelve rows of one value: s is 1, and k is 0 or 1. */
+    private static void lessAndMoreOfOneValue() {
+        WharfQuery x = withOneSource(7, 7, 7, 7, 7, 7, 7, 7, 7, 7, 7, 7);
+        x.addSource(0, 0);
+        x.addCondition(0, 0, 0, WharfQuery.LESS, 8);
+        Check.same("LESS 8", x.foretold(0), 12 + 144);
+        x.dropCondition(0);
+        x.addCondition(0, 0, 0, WharfQuery.LESS, 7);
+        Check.same("LESS 7", x.foretold(0), 12);
+        x.dropCondition(0);
+        x.addCondition(0, 0, 0, WharfQuery.MORE, 6);
+        Check.same("MORE 6", x.foretold(0), 12 + 144);
+        x.dropCondition(0);
+        x.addCondition(0, 0, 0, WharfQuery.MORE, 7);
+        Check.same("MORE 7", x.foretold(0), 12);
+        x.dropCondition(0);
+        x.addCondition(0, 0, 0, WharfQuery.SAME, 7);
+        Check.same("SAME of one unlike value", x.foretold(0), 12 + 144);
+    }
+
+    /** Two rows of 0 and 252, LESS than 211: 2000 * 211 / 253 are 1667, and 2000 + 3 * 1667 are 7001. */
+    private static void aThousandthIsAMinute() {
+        WharfQuery x = withOneSource(0, 252);
+        x.addTable(1);
+        addRows(x, 1, 1, 3);
+        x.renew(1, 1);
+        x.addSource(0, 1);
+        x.addCondition(0, 0, 0, WharfQuery.LESS, 211);
+        Check.same("7001 rounded up", x.foretold(0), 8);
     }
 
     private static void sameNarrows() {
@@ -327,6 +361,18 @@ final class PlansTest {
         Check.same("sum of it", x.sum(0), 1);
         Check.same("plainAnswer of it", x.plainAnswer(0), 1);
         Check.same("plainSum of it", x.plainSum(0), 1);
+    }
+
+    private static void plainIsAskedFirst() {
+        WharfQuery first = withOneSource(3, 4, 5);
+        Check.same("plainAnswer first", first.plainAnswer(0), 3);
+        WharfQuery sums = withOneSource(3, 4, 5);
+        sums.setSum(0, 0, 0);
+        Check.same("plainSum first", sums.plainSum(0), 12);
+        sums.addReport(0);
+        Check.same("plainSum of another report", sums.plainSum(1), 0);
+        Check.same("plainAnswer of another report", sums.plainAnswer(1), 0);
+        Check.same("sum of the first report", sums.sum(0), 12);
     }
 
     private static void largest() {

@@ -110,6 +110,8 @@ final class TablesTest {
         }
         Check.badState("insert of row 40", () -> x.insert(0, 0, 0, 0));
         Check.badArgument("wrong value at row 40", () -> x.insert(0, 0, 1, 0));
+        Check.outOfBounds("delete of row 40 of 40", () -> x.delete(0, 40));
+        Check.outOfBounds("value of row 40 of 40", () -> x.value(0, 40, 0));
         Check.same("delete(0, 39)", x.delete(0, 39), 39);
         Check.badState("40 ever, deleted or not", () -> x.insert(0, 0, 0, 0));
         Check.same("another table has its own 40", x.insert(1, 0, 0, 0), 0);
