@@ -804,10 +804,9 @@ public final class WharfQuery {
             this.run = run;
         }
 
-        // Tables and reports that were not added yet are neither marked nor due.
-
         void takePay(int reserve) {
             int pay = reserve;
+            // Tables and reports that were not added yet are neither marked nor due.
             for (int i = 0; i < MOST_TABLES; i++) {
                 if (tables[i].marked) {
                     pay += tables[i].takeSample(sampleStep);
@@ -883,7 +882,7 @@ public final class WharfQuery {
             }
         }
 
-        /** Marking may come ahead of dawn: the marks are read at dusk alone. */
+        /** Marking may come ahead of dawn: nothing behind the renewing looks at marks in a night. */
         private void markTables(Report report) {
             for (int source = 0; source < report.sourceCount; source++) {
                 tables[report.sources[source]].marked = true;
