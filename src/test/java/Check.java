@@ -1,7 +1,10 @@
+import java.util.function.IntSupplier;
+
 /** Counts the answers of a test that are not the ones that are due. */
 final class Check {
     private static int checked = 0;
     private static int wrong = 0;
+    private static String reason = "";
 
     private Check() {
     }
@@ -10,11 +13,15 @@ final class Check {
         void make();
     }
 
+    /** Which words of the document the checks behind this are for. */
+    static void stateReason(String words) {
+        reason = words;
+    }
+
     static void same(String what, long got, long due) {
         checked++;
         if (got != due) {
-            wrong++;
-            System.out.println(what + " answered " + got + ", due is " + due);
+            report(what + " answered " + got + ", due is " + due);
         }
     }
 
@@ -44,16 +51,27 @@ final class Check {
         }
         checked++;
         if (got != due) {
-            wrong++;
-            System.out.println(what + " threw " + (got == null ? "nothing" : got.getName())
-                    + ", due is " + due.getName());
+            report(what + " threw " + (got == null ? "nothing" : got.getName()) + ", due is " + due.getName());
+        }
+    }
+
+    /** The answer of a call, or the name of what it throws. */
+    static String textOf(IntSupplier call) {
+        try {
+            return String.valueOf(call.getAsInt());
+        } catch (RuntimeException e) {
+            return e.getClass().getName();
         }
     }
 
     static void wrongBecause(String what) {
         checked++;
+        report(what);
+    }
+
+    private static void report(String what) {
         wrong++;
-        System.out.println(what);
+        System.out.println(reason.isEmpty() ? what : what + " [" + reason + "]");
     }
 
     /** Ends the test; a test that checked nothing has failed, too. */

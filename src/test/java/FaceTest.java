@@ -21,6 +21,7 @@ final class FaceTest {
         constants();
         methods();
         hiddenMembers();
+        partsOfTheInterface();
         Check.end();
     }
 
@@ -101,5 +102,26 @@ final class FaceTest {
         }
         Check.same("is public and final", WharfQuery.class.getModifiers() & (Modifier.PUBLIC | Modifier.FINAL),
                 Modifier.PUBLIC | Modifier.FINAL);
+    }
+
+    /** "Ahead of the calls .. the interface says: ---- .." */
+    private static void partsOfTheInterface() throws IOException {
+        String document = Files.readString(Path.of("../shared/DOC.md"));
+        String program = Files.readString(Path.of("src/main/java/WharfQuery.java"));
+        Matcher parts = Pattern.compile("Ahead of the calls (.*) the interface says: (---- [a-z ]+)\\.").matcher(document);
+        int found = 0;
+        while (parts.find()) {
+            found++;
+            int begin = program.indexOf("// " + parts.group(2) + "\n");
+            int end = program.indexOf("// ----", begin + 1);
+            Check.same("says " + parts.group(2), begin >= 0 && end > begin, true);
+            Matcher names = Pattern.compile("`(\\w+)`").matcher(parts.group(1));
+            while (names.find()) {
+                Matcher call = Pattern.compile("public \\w+ " + names.group(1) + "\\(").matcher(program);
+                boolean isInside = call.find() && call.start() > begin && call.start() < end;
+                Check.same(names.group(1) + " stands behind " + parts.group(2), isInside, true);
+            }
+        }
+        Check.same("parts of the interface", found, 5);
     }
 }

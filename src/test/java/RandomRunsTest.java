@@ -230,21 +230,13 @@ final class RandomRunsTest {
     /** The program and the Model answer the same, or throw the same. */
     private void due(String name, IntSupplier program, IntSupplier due, int... arguments) {
         calls.append("  ").append(name).append(java.util.Arrays.toString(arguments)).append('\n');
-        String dueText = textOf(due);
-        String got = textOf(program);
+        String dueText = Check.textOf(due);
+        String got = Check.textOf(program);
         if (got.equals(dueText)) {
             Check.same(name, 0, 0);
         } else {
             isWrong = true;
             Check.wrongBecause("run " + run + ":\n" + calls + "answered " + got + ", due is " + dueText);
-        }
-    }
-
-    private static String textOf(IntSupplier call) {
-        try {
-            return String.valueOf(call.getAsInt());
-        } catch (RuntimeException e) {
-            return e.getClass().getName();
         }
     }
 }
