@@ -1,4 +1,5 @@
 import java.util.List;
+import java.util.function.Function;
 
 /** "Nights" and promises 31 to 38, sentence by sentence, at their edges. */
 final class NightEdgesTest {
@@ -534,16 +535,31 @@ final class NightEdgesTest {
         }
     }
 
-    /** 500 calls are nights, so that only a dozen can be something else. */
+    /** 507 calls: one is left to be refused, and four to look at what is behind it. */
     private static WharfQuery behind500Nights() {
         WharfQuery x = new WharfQuery();
         x.addTable(1);
         x.insert(0, 1, 0, 0);
         addScan(x, 0, 3);
+        x.addCondition(0, 0, 0, WharfQuery.MORE, 0);
+        x.setSum(0, 0, 0);
         for (int night = 0; night < 500; night++) {
             x.night(night % 2);
         }
         return x;
+    }
+
+    private static List<Function<WharfQuery, List<String>>> portraitsOfFourCalls() {
+        return List.of(
+                x -> Portrait.of(x::nights, x::paid, x::left, x::owed),
+                x -> Portrait.of(() -> x.rows(0), () -> x.toldRows(0), () -> x.value(0, 0, 0), () -> x.unlike(0, 0)),
+                x -> Portrait.of(() -> x.least(0, 0), () -> x.greatest(0, 0), () -> x.isMarked(0) ? 1 : 0,
+                        () -> x.setIndex(0, 0, true) ? 1 : 0),
+                x -> Portrait.of(() -> x.isDue(0) ? 1 : 0, () -> x.foretold(0), () -> x.answer(0), () -> x.sum(0)),
+                x -> Portrait.of(() -> x.kept(0), () -> x.keptSum(0), () -> x.keptIn(0), () -> x.setStep(1)),
+                x -> Portrait.of(() -> x.addTable(1), () -> x.addReport(0), () -> x.dropCondition(0),
+                        () -> x.addSource(0, 0)),
+                x -> Portrait.of(() -> x.insert(0, 0, 0, 0), () -> x.minutes(0), () -> x.rows(1), () -> x.isDue(1) ? 1 : 0));
     }
 
     private static void fiveHundredNights() {
@@ -557,7 +573,7 @@ final class NightEdgesTest {
         Check.same("the 500th", x.night(1), 1);
         Check.same("its number", x.keptIn(0), 499);
         Check.badState("the 501st", () -> x.night(1));
-        Past behind = new Past(NightEdgesTest::behind500Nights, List.of(Portrait::ofNights));
+        Past behind = new Past(NightEdgesTest::behind500Nights, portraitsOfFourCalls());
         behind.badState("the 501st of 0", y -> y.night(0));
         behind.badState("the 501st of 1000", y -> y.night(1000));
         for (int wrong : Past.outside(0, 1000)) {

@@ -15,6 +15,7 @@ final class RandomRunsTest {
     private final WharfQuery x = new WharfQuery();
     private final Model model = new Model();
     private final StringBuilder calls = new StringBuilder();
+    private int made;
     private int sources;
     private boolean isWrong;
 
@@ -35,8 +36,9 @@ final class RandomRunsTest {
 
     private void go() {
         int building = random.nextInt(150);
-        for (int call = 0; call < CALLS && !isWrong; call++) {
-            if (call < building || random.nextInt(4) == 0) {
+        // A draw makes four calls at the most, and what a call behind the last one answers is free.
+        for (int draw = 0; made <= CALLS - 4 && !isWrong; draw++) {
+            if (draw < building || random.nextInt(4) == 0) {
                 build();
             } else {
                 ask();
@@ -229,6 +231,7 @@ final class RandomRunsTest {
 
     /** The program and the Model answer the same, or throw the same. */
     private void due(String name, IntSupplier program, IntSupplier due, int... arguments) {
+        made++;
         calls.append("  ").append(name).append(java.util.Arrays.toString(arguments)).append('\n');
         String dueText = Check.textOf(due);
         String got = Check.textOf(program);

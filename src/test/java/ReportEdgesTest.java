@@ -60,6 +60,14 @@ final class ReportEdgesTest {
         }
     }
 
+    private static WharfQuery withEightReports() {
+        WharfQuery x = Stores.busy();
+        for (int report = 3; report < 8; report++) {
+            x.addReport(report);
+        }
+        return x;
+    }
+
     private static void eightReports() {
         Document.says("Reports", "there are at most 8");
         Document.promises(15, "Throws `IllegalStateException` if there are 8");
@@ -69,6 +77,7 @@ final class ReportEdgesTest {
         }
         Check.same("the eighth", x.addReport(1), 7);
         Check.badState("the ninth", () -> x.addReport(1));
+        new Past(ReportEdgesTest::withEightReports).badState("the ninth, but few tables", y -> y.addReport(1));
         FULL.badState("the ninth of 0", y -> y.addReport(0));
         FULL.badState("the ninth of 1000", y -> y.addReport(1000));
     }

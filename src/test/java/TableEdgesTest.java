@@ -100,12 +100,19 @@ final class TableEdgesTest {
         }
     }
 
+    private static WharfQuery withFourTables() {
+        WharfQuery x = Stores.busy();
+        x.addTable(3);
+        return x;
+    }
+
     private static void fourTables() {
         Document.says("Tables", "there are at most 4");
         Document.promises(2, "Throws `IllegalStateException` if there are 4");
         WharfQuery x = Stores.busy();
         Check.same("the fourth", x.addTable(3), 3);
         Check.badState("a fifth of three columns", () -> x.addTable(3));
+        new Past(TableEdgesTest::withFourTables).badState("a fifth, but few reports", y -> y.addTable(1));
         FULL.badState("a fifth of one column", y -> y.addTable(1));
         FULL.badState("a fifth of three columns", y -> y.addTable(3));
     }

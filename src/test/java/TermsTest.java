@@ -27,15 +27,16 @@ final class TermsTest {
     private static void askingChangesNothing() {
         Document.says("Terms", "Tables, rows and indexes are told, reports are put together, counts are renewed, nights pass;");
         Document.says("Terms", "counts, plans, minutes, answers, pay and penalties can be asked for, answers also by the plainest plan.");
-        WharfQuery busy = Stores.busy();
-        List<String> once = Portrait.ofState(busy);
-        Check.same("asked twice", Portrait.ofState(busy).equals(once), true);
-        Check.same("the future of what was asked",
-                Portrait.ofFuture(busy).equals(Portrait.ofFuture(Stores.busy())), true);
-        WharfQuery full = Stores.full();
-        Portrait.ofRows(full);
-        Check.same("the future of rows that were asked",
-                Portrait.ofFuture(full).equals(Portrait.ofFuture(Stores.full())), true);
+        WharfQuery twice = Stores.busy();
+        List<String> once = Portrait.ofState(twice);
+        Check.same("asked twice", Portrait.ofState(twice).equals(once), true);
+        List<String> due = Portrait.ofFuture(Stores.busy());
+        WharfQuery asked = Stores.busy();
+        Portrait.ofState(asked);
+        Check.same("the future of what was asked", Portrait.ofFuture(asked).equals(due), true);
+        WharfQuery askedForRows = Stores.busy();
+        Portrait.ofRows(askedForRows);
+        Check.same("the future of rows that were asked", Portrait.ofFuture(askedForRows).equals(due), true);
     }
 
     private static void objectsAreApart() {
