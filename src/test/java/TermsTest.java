@@ -14,6 +14,9 @@ final class TermsTest {
         askingChangesNothing();
         objectsAreApart();
         whatIsThrown();
+        lastTableIsNotRefused();
+        lastReportIsNotRefused();
+        firstOfAllIsNotRefused();
         argumentAheadOfState();
         boundsAheadOfArgument();
         boundsAheadOfState();
@@ -72,6 +75,86 @@ final class TermsTest {
         FULL.badState("a fourth source", x -> x.addSource(7, 0));
         FULL.badState("a seventh condition", x -> x.addCondition(7, 0, 0, 0, 0));
         FRESH.outOfBounds("the first table of none", x -> x.rows(0));
+    }
+
+    private static void lastTableIsNotRefused() {
+        Document.says("Terms", "if there is no such table, column, row");
+        WharfQuery x = Stores.full();
+        Check.same("insert", x.insert(3, 999, 999, 999), 0);
+        Check.same("setIndex", x.setIndex(3, 2, true), false);
+        Check.same("rows", x.rows(3), 1);
+        Check.same("value", x.value(3, 0, 2), 999);
+        Check.same("renew", x.renew(3, 10), 1);
+        Check.same("toldRows", x.toldRows(3), 1);
+        Check.same("unlike", x.unlike(3, 2), 1);
+        Check.same("least", x.least(3, 2), 999);
+        Check.same("greatest", x.greatest(3, 2), 999);
+        Check.same("isMarked", x.isMarked(3), false);
+        Check.same("addSource", x.addSource(0, 3), 0);
+        Check.same("delete", x.delete(3, 0), 0);
+        Check.same("value of the last row of 39", x.value(0, 38, 2), 961);
+        Check.same("delete of the last row of 39", x.delete(0, 38), 38);
+    }
+
+    private static void lastReportIsNotRefused() {
+        Document.says("Terms", "report, source, condition or step");
+        WharfQuery x = Stores.full();
+        Check.same("dropCondition", x.dropCondition(7), 5);
+        Check.same("addCondition", x.addCondition(7, 2, 0, WharfQuery.MORE, 0), 5);
+        Check.same("dropCondition again", x.dropCondition(7), 5);
+        Check.same("addJoin", x.addJoin(7, 2, 0, 1, 0), 5);
+        x.setSum(7, 2, 0);
+        Check.same("setDue", x.setDue(7, true), true);
+        Check.same("isDue", x.isDue(7), true);
+        Check.same("planSource", x.planSource(7, 2) >= 0, true);
+        Check.same("planWay", x.planWay(7, 2) >= -1, true);
+        Check.same("foretold", x.foretold(7) >= 0, true);
+        Check.same("minutes", x.minutes(7) > 0, true);
+        Check.same("answer", x.answer(7), x.plainAnswer(7));
+        Check.same("sum", x.sum(7), 3 * x.answer(7));
+        Check.same("plainSum", x.plainSum(7), 3 * x.answer(7));
+        Check.same("kept", x.kept(7), -1);
+        Check.same("keptSum", x.keptSum(7), -1);
+        Check.same("keptIn", x.keptIn(7), -1);
+        Check.same("addSource to the last but one", x.addSource(6, 0), 0);
+    }
+
+    private static void firstOfAllIsNotRefused() {
+        Document.says("Terms", "if there is no such table, column, row, report, source, condition or step");
+        WharfQuery x = new WharfQuery();
+        Check.same("addTable", x.addTable(1), 0);
+        Check.same("insert", x.insert(0, 0, 0, 0), 0);
+        Check.same("setIndex", x.setIndex(0, 0, true), false);
+        Check.same("rows", x.rows(0), 1);
+        Check.same("value", x.value(0, 0, 0), 0);
+        Check.same("renew", x.renew(0, 1), 1);
+        Check.same("toldRows", x.toldRows(0), 1);
+        Check.same("unlike", x.unlike(0, 0), 1);
+        Check.same("least", x.least(0, 0), 0);
+        Check.same("greatest", x.greatest(0, 0), 0);
+        Check.same("isMarked", x.isMarked(0), false);
+        Check.same("addReport", x.addReport(0), 0);
+        Check.same("addSource", x.addSource(0, 0), 0);
+        Check.same("addSource again", x.addSource(0, 0), 1);
+        Check.same("addJoin", x.addJoin(0, 0, 0, 1, 0), 0);
+        Check.same("dropCondition", x.dropCondition(0), 0);
+        Check.same("addCondition", x.addCondition(0, 0, 0, WharfQuery.SAME, 0), 0);
+        x.setSum(0, 0, 0);
+        Check.same("setDue", x.setDue(0, true), false);
+        Check.same("isDue", x.isDue(0), true);
+        Check.same("planSource", x.planSource(0, 0), 0);
+        Check.same("planWay", x.planWay(0, 0), -1);
+        Check.same("foretold", x.foretold(0), 2);
+        Check.same("minutes", x.minutes(0), 2);
+        Check.same("answer", x.answer(0), 1);
+        Check.same("sum", x.sum(0), 0);
+        Check.same("plainAnswer", x.plainAnswer(0), 1);
+        Check.same("plainSum", x.plainSum(0), 0);
+        Check.same("night", x.night(0), 1);
+        Check.same("kept", x.kept(0), 1);
+        Check.same("keptSum", x.keptSum(0), 0);
+        Check.same("keptIn", x.keptIn(0), 0);
+        Check.same("delete", x.delete(0, 0), 0);
     }
 
     private static void argumentAheadOfState() {
