@@ -16,6 +16,9 @@ public final class WharfQuery {
     private static final int GREATEST_PENALTY = 1000, GREATEST_RESERVE = 1000;
     private static final int THOUSAND = 1000;
 
+    // Three steps of 40 rows each take some 66 million thousandths at the most.
+    private static final long MORE_THAN_ANY_PLAN = 1L << 40;
+
     // Behind every step, so that a join with a source that has no step yet belongs to no step.
     private static final int NO_STEP = MOST_SOURCES;
 
@@ -607,7 +610,7 @@ public final class WharfQuery {
 
         Plan choose(Report report) {
             draft.clear();
-            best.thousandths = Long.MAX_VALUE;
+            best.thousandths = MORE_THAN_ANY_PLAN;
             extend(this, report, 0, THOUSAND, 0);
             return best;
         }

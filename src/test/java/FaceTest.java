@@ -85,12 +85,20 @@ final class FaceTest {
         for (Field field : WharfQuery.class.getDeclaredFields()) {
             boolean isShown = !Modifier.isPrivate(field.getModifiers());
             Check.same("shows field " + field.getName(), isShown, constants.contains(field.getName()));
+            if (isShown) {
+                int constant = Modifier.PUBLIC | Modifier.STATIC | Modifier.FINAL;
+                Check.same("modifiers of " + field.getName(), field.getModifiers(), constant);
+                Check.same(field.getName() + " is an int", field.getType() == int.class, true);
+            }
         }
         Set<String> shown = new HashSet<>();
         Set<String> hidden = new HashSet<>();
         for (Method method : WharfQuery.class.getDeclaredMethods()) {
             boolean isPublic = Modifier.isPublic(method.getModifiers());
             (isPublic ? shown : hidden).add(method.getName());
+            if (isPublic) {
+                Check.same("modifiers of " + method.getName(), method.getModifiers(), Modifier.PUBLIC);
+            }
             Check.same("shows " + method.getName(), !Modifier.isPrivate(method.getModifiers()), isPublic);
         }
         for (String name : hidden) {
